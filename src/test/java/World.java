@@ -11,6 +11,8 @@ final class World {
     };
     private final List<Consumer<HeWillNotPlead>> steps = new ArrayList<>();
     int end = 20;
+    String law = "hskh";
+    String values = "10,10,10,10,10,10,10,10";
 
     static World random(Random random) {
         World world = new World();
@@ -18,8 +20,10 @@ final class World {
         int count = gang.split(";").length;
         world.reads(gang, x -> x.prisoners());
         world.reads(bench(random, count), x -> x.witnesses());
-        world.reads(values(random), x -> x.values());
-        world.reads(law(random), x -> x.law());
+        world.values = values(random);
+        world.reads(world.values, x -> x.values());
+        world.law = law(random);
+        world.reads(world.law, x -> x.law());
         world.reads(RULES[random.nextInt(RULES.length)], x -> x.rule());
         if (random.nextInt(3) > 0) {
             world.end = Check.between(random, 1, 30);
