@@ -1263,10 +1263,6 @@ public final class HeWillNotPlead {
             things[3] = water;
             things[4] = fear;
             things[5] = number;
-            return reckoned();
-        }
-
-        private int reckoned() {
             int height = 0;
             for (int k = 0; k < length && height < MOST; k++) {
                 int step = steps[k];

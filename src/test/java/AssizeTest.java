@@ -118,6 +118,10 @@ public final class AssizeTest {
         Check.due("bread on DAY 0", y.count(4), 1);
         y.nights(1);
         Check.due("water on DAY 1", y.count(6), 1);
+        HeWillNotPlead two = Check.with("10,0+0;90,0+0;10,0+0", "");
+        Check.put(two, "l05;l150;l25").assize();
+        two.nights(1);
+        Check.row("two die in a NIGHT", two, 5, 0);
         // who has nothing on him does not die, whatever is LEFT
         HeWillNotPlead z = Check.with("10,0+0", "");
         Check.put(z, "0").rule();
@@ -153,6 +157,9 @@ public final class AssizeTest {
             Check.row("assize " + act, x, 1, 3);
         }
         Check.due("nothing was done by these", x.count(11), 2);
+        HeWillNotPlead y = Check.with("40,15+0", "");
+        Check.due("acts that answer 0 were done", Check.put(y, "a0;l05;o09;n0;n60").assize(), 5);
+        Check.row("acts that answer 0 were done", y, 0, 60);
         Check.due("n0", Check.put(x, "n0").assize(), 1);
         Check.due("n0 is an ACT that was done", x.count(11), 3);
     }

@@ -64,6 +64,10 @@ public final class BearsTest {
         Check.due("not SILENT", x.dies(1), -3);
         Check.due("dies(2)", x.dies(2), -1);
         Check.due("dies(-1)", x.dies(-1), -1);
+        HeWillNotPlead first = Check.with("9,0+0", "");
+        first.lay(0, 9);
+        Check.due("in the first", first.dies(0), 1);
+        Check.row("LEFT then", first, -5);
         HeWillNotPlead y = Check.with("99,0+0", "");
         Check.put(y, "61-d-n").rule();
         y.ends(99);
@@ -96,6 +100,11 @@ public final class BearsTest {
         Check.due("THE END", x.speaks(0, 24), -2);
         x.ends(2);
         Check.due("ahead of THE END", x.speaks(0, 24), 1);
+        HeWillNotPlead z = Check.with("9,0+0", "");
+        Check.put(z, "5-d*9-n*5").rule();
+        Check.due("nothing lies on him: he does not die", z.speaks(0, 0), 1);
+        Check.put(z, "5-d*9+n*9").rule();
+        Check.due("1 lies on him: he dies", z.speaks(0, 1), -2);
         HeWillNotPlead y = Check.with("99,39+0", "");
         Check.put(y, "b-d").rule();
         y.ends(99);
@@ -120,6 +129,11 @@ public final class BearsTest {
         Check.due("least(3, 1)", x.least(3, 1), -1);
         x.ask(2);
         Check.due("not SILENT", x.least(2, 1), -3);
+        Check.put(x, "115-w+(w<99)*99").rule();
+        Check.due("none but 99", x.least(0, 60), -2);
+        Check.put(x, "114-w+(w<99)*99").rule();
+        Check.due("99", x.least(0, 60), 99);
+        Check.row("99", x, 0);
     }
 
     private static void mercy() {
@@ -149,6 +163,9 @@ public final class BearsTest {
         Check.due("longest(3)", x.longest(3), -1);
         x.ask(2);
         Check.due("not SILENT", x.longest(2), -3);
+        Check.put(x, "15+(w=99)*(3-d)").rule();
+        Check.due("99", x.longest(0), 99);
+        Check.row("99", x, 3);
     }
 
     private static void alike() {

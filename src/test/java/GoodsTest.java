@@ -51,7 +51,7 @@ public final class GoodsTest {
         HeWillNotPlead x = ended();
         Check.due("if DEAD", x.hopes(0), 16 + 96);
         Check.row("LEFT OVER, FREED", x, 16 + 96, 0);
-        Check.put(x, "4,99,0;4,1,0").witnesses();
+        Check.put(x, "4,99,9;4,1,0").witnesses();
         Check.put(x, "khhs").law();
         Check.due("DEAD is the king's", x.hopes(0), 0);
         Check.row("one is CONVICTED, one FREED", x, 0, 16 + 96);

@@ -59,6 +59,7 @@ public final class HouseTest {
         Check.due("no such parts", x.search(0, 10), -2);
         Check.due("no GOODS", x.search(1, 0), -2);
         Check.row("nothing told", x, 1);
+        Check.due("999", x.search(0, 999), -2);
         Check.due("1000", x.search(0, 1000), -1);
         Check.due("-1", x.search(0, -1), -1);
         Check.due("search(3, 0)", x.search(3, 0), -1);

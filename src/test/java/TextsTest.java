@@ -85,13 +85,13 @@ public final class TextsTest {
             "0", "0x", "0,5+0", "00", "00,5+0", "x", ";", "100,5+0", "5", "5,", "5x", "5,5", "5,x",
             "5,5x", "5,5+", "5,5+4", "5,5-x", "5,5+0,", "5,5+0;", "5,5+0;;", "5,5+0i", "5,5+0aa",
             "5,5+0ca", "5,5+0ab;5,5+0b", "5,5+0;0", "5,5+0;0,1+0", "5,100+0", " 5,5+0", "5,5+0A",
-            "5,5+0;5,5+0;5,5+9", "5,5+0 ",
+            "5,5+0;5,5+0;5,5+9", "5,5+0 ", "5-0", "55+0", "0+0", ",5+0", "5,+0", "5,5+0a;5,5+0b;5,5+0a",
         };
         int[] wrongAt = {
             0, 0, 0, 1, 1, 0, 0, 2, 1, 2, 1, 3, 2,
             3, 4, 4, 4, 5, 6, 6, 5, 6,
             6, 13, 6, 6, 4, 0, 5,
-            16, 5,
+            16, 5, 1, 2, 0, 0, 2, 19,
         };
         for (int k = 0; k < texts.length; k++) {
             HeWillNotPlead x = new HeWillNotPlead();
@@ -103,6 +103,7 @@ public final class TextsTest {
         }
         HeWillNotPlead x = Check.with("5,5+0c", "");
         Check.due("GOODS of another", Check.put(x, "5,5+0bcd").prisoners(), -7);
+        Check.due("GOODS of another, in the second LINE", Check.put(x, "5,5+0b;5,5+0ac").prisoners(), -14);
         Check.due("GOODS of a dead one", new World().reads("5,5+0c", y -> y.prisoners())
                 .does(y -> y.lay(0, 50)).does(y -> y.nights(1))
                 .reads("5,5+0ac", y -> Check.due("ac", y.prisoners(), -7)).make().count(6), 1);
@@ -154,6 +155,8 @@ public final class TextsTest {
         Check.due("none of these came", x.count(1), 3);
         Check.due("five more", Check.put(x, "1,1,1;1,1,1;1,1,1;1,1,1;1,1,1").witnesses(), 5);
         Check.due("no room", Check.put(x, "1,1,1").witnesses(), -1);
+        Check.due("no room for a wrong one", Check.put(x, ";").witnesses(), -1);
+        Check.due("eight", x.count(1), 8);
         Check.due("PROOF", x.prisoner(1, 9), 12);
     }
 

@@ -92,6 +92,8 @@ public final class TrialsTest {
         Check.put(x, "hkkk").law();
         Check.due("all are the king's", x.docket(), 7);
         Check.row("the fewest", x);
+        Check.due("trials() behind docket()", x.trials(), 3);
+        Check.row("trials() behind docket()", x, 2, 1, 0);
         Check.put(x, "hshh").law();
         Check.due("none is the king's", x.docket(), 0);
         Check.row("the fewest", x);

@@ -59,6 +59,7 @@ public final class YearsTest {
             }
             y.nights(1);
         }
+        x.years(seed, 60);
         Check.due("years as acted", x.years(seed, n), pleaded);
         Check.row("years as acted", x, Integer.bitCount(y.count(6) & ~x.count(6)),
                 Integer.bitCount(y.count(8) & ~x.count(8)));
