@@ -171,17 +171,17 @@ public final class HeWillNotPlead {
 
     public int lay(int prisoner, int n) {
         past.note(now);
-        return sealed(now.layOn(prisoner, n));
+        return doneBy(now.layOn(prisoner, n));
     }
 
     public int ask(int prisoner) {
         past.note(now);
-        return sealed(now.askOf(prisoner));
+        return doneBy(now.askOf(prisoner));
     }
 
     public int judge(int prisoner) {
         past.note(now);
-        int verdict = sealed(now.tryNow(prisoner));
+        int verdict = doneBy(now.tryNow(prisoner));
         if (verdict >= 0) {
             told.tell(now.proofIn(prisoner, 0));
         }
@@ -697,7 +697,7 @@ public final class HeWillNotPlead {
         return prisoner >= 0 && prisoner < gang.count;
     }
 
-    private int sealed(int answer) {
+    private int doneBy(int answer) {
         if (answer >= 0) {
             past.seal();
         }

@@ -197,35 +197,24 @@ public final class AssizeTest {
         HeWillNotPlead x = Check.with("40,15+0;9,9+0", "0,60,7");
         Check.due("nothing to undo", x.undo(), -1);
         String[] before = new String[5];
-        before[0] = Check.seen(x);
+        before[0] = Check.facts(x);
         x.lay(0, 20);
-        before[1] = Check.seen(x);
+        before[1] = Check.facts(x);
         x.ask(0);
-        before[2] = Check.seen(x);
+        before[2] = Check.facts(x);
         x.ask(1);
-        before[3] = Check.seen(x);
+        before[3] = Check.facts(x);
         x.nights(0);
         x.nights(2);
-        before[4] = Check.seen(x);
+        before[4] = Check.facts(x);
         x.judge(1);
         Check.due("what can be undone", x.count(11), 5);
         for (int k = 4; k >= 0; k--) {
             Check.due("undo", x.undo(), k);
-            Check.same("as ahead of it, but for the row", withoutRow(Check.seen(x)), withoutRow(before[k]));
+            Check.same("as ahead of it", Check.facts(x), before[k]);
         }
         Check.due("none", x.undo(), -1);
         Check.due("the row stays", x.count(12), 1);
-    }
-
-    /** count(12) and the row itself are not what undo() is about; no row is longer than three here. */
-    private static String withoutRow(String seen) {
-        String[] words = seen.split(" ");
-        words[12] = "";
-        StringBuilder kept = new StringBuilder();
-        for (int k = 0; k < 14 + 2 * 11 + 3; k++) {
-            kept.append(words[k]).append(' ');
-        }
-        return kept.toString();
     }
 
     private static void undoOfTwelve() {
@@ -287,7 +276,7 @@ public final class AssizeTest {
         for (int k = 0; k < 300; k++) {
             HeWillNotPlead x = World.random(random).make();
             x.prisoners();
-            String before = cut(Check.seen(x));
+            String before = Check.facts(x);
             int can = x.count(11);
             int act = random.nextInt(5);
             int p = random.nextInt(x.count(0));
@@ -300,20 +289,7 @@ public final class AssizeTest {
             if (answer >= 0) {
                 x.undo();
             }
-            Check.same("undone " + act, cut(Check.seen(x)), before);
+            Check.same("undone " + act, Check.facts(x), before);
         }
-    }
-
-    /** Without what can be undone, and the row. */
-    private static String cut(String seen) {
-        String[] words = seen.split(" ");
-        int rows = Integer.parseInt(words[12]);
-        words[11] = "";
-        words[12] = "";
-        StringBuilder kept = new StringBuilder();
-        for (int k = 0; k < words.length - rows; k++) {
-            kept.append(words[k]).append(' ');
-        }
-        return kept.toString();
     }
 }

@@ -64,10 +64,20 @@ final class Check {
         }
     }
 
-    /** Everything that can be seen without changing anything. */
+    /** Everything that can be seen, the row too. */
     static String seen(HeWillNotPlead x) {
+        StringBuilder all = new StringBuilder(facts(x));
+        all.append(x.count(11)).append(' ').append(x.count(12)).append(' ').append(x.count(13));
+        for (int i = 0; i < x.count(12); i++) {
+            all.append(' ').append(x.row(i));
+        }
+        return all.toString();
+    }
+
+    /** What is so of PRISONERS and WITNESSES, DAY and THE END. */
+    static String facts(HeWillNotPlead x) {
         StringBuilder all = new StringBuilder();
-        for (int what = 0; what < 14; what++) {
+        for (int what = 0; what < 11; what++) {
             all.append(x.count(what)).append(' ');
         }
         for (int p = 0; p < x.count(0); p++) {
@@ -79,9 +89,6 @@ final class Check {
             for (int what = 0; what < 3; what++) {
                 all.append(x.witness(k, what)).append(' ');
             }
-        }
-        for (int i = 0; i < x.count(12); i++) {
-            all.append(x.row(i)).append(' ');
         }
         return all.toString();
     }

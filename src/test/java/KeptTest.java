@@ -138,7 +138,7 @@ public final class KeptTest {
         HeWillNotPlead x = world.make();
         int i = random.nextInt(2);
         x.keep(i);
-        String before = facts(x);
+        String before = Check.facts(x);
         for (int k = 0; k < 6; k++) {
             int p = random.nextInt(x.count(0));
             x.lay(p, Check.between(random, -50, 50));
@@ -147,22 +147,6 @@ public final class KeptTest {
             x.nights(random.nextInt(4));
         }
         Check.due("again", x.again(i), true);
-        Check.same("as it was kept", facts(x), before);
-    }
-
-    private static String facts(HeWillNotPlead x) {
-        StringBuilder all = new StringBuilder();
-        for (int what = 0; what < 11; what++) {
-            all.append(x.count(what)).append(' ');
-        }
-        for (int p = 0; p < x.count(0); p++) {
-            for (int what = 0; what < 11; what++) {
-                all.append(x.prisoner(p, what)).append(' ');
-            }
-        }
-        for (int k = 0; k < x.count(1); k++) {
-            all.append(x.witness(k, 1)).append(' ');
-        }
-        return all.toString();
+        Check.same("as it was kept", Check.facts(x), before);
     }
 }

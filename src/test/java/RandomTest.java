@@ -44,11 +44,11 @@ public final class RandomTest {
                 boolean isSmall = random.nextInt(3) > 0;
                 a[j] = isSmall ? random.nextInt(7) : EDGES[random.nextInt(EDGES.length)];
             }
-            String before = CHANGES.contains(name) ? "" : facts(x);
+            String before = CHANGES.contains(name) ? "" : factsAndTexts(x);
             String answer = answered(x, name, a);
             answers.add(name + Arrays.toString(a) + " " + answer);
             if (!before.isEmpty()) {
-                Check.same(name + " changes nothing", facts(x), before);
+                Check.same(name + " changes nothing", factsAndTexts(x), before);
             }
         }
         return answers;
@@ -135,20 +135,7 @@ public final class RandomTest {
         }
     }
 
-    /** All but the row. */
-    private static String facts(HeWillNotPlead x) {
-        StringBuilder all = new StringBuilder();
-        for (int what = 0; what < 14; what++) {
-            all.append(what == 12 ? 0 : x.count(what)).append(' ');
-        }
-        for (int p = 0; p < x.count(0); p++) {
-            for (int what = 0; what < 11; what++) {
-                all.append(x.prisoner(p, what)).append(' ');
-            }
-        }
-        for (int k = 0; k < x.count(1); k++) {
-            all.append(x.witness(k, 1)).append(' ');
-        }
-        return all.toString();
+    private static String factsAndTexts(HeWillNotPlead x) {
+        return Check.facts(x) + x.count(11) + " " + x.count(13);
     }
 }
