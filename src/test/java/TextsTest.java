@@ -12,6 +12,7 @@ public final class TextsTest {
         values();
         witnesses();
         wrongWitnesses();
+        noDigits();
         law();
         rule();
         wrongRules();
@@ -39,6 +40,8 @@ public final class TextsTest {
         x.end(78);
         Check.due("78 and 4 are more than 80", x.sign(0), -1);
         Check.due("a refused sign leaves the text", x.count(13), 78);
+        x.end(77);
+        Check.due("77 and 4 are more than 80", x.sign(0), -1);
         x.end(76);
         Check.due("76 and 4", x.sign(0), 80);
         // the highest byte first, bytes without sign
@@ -192,6 +195,25 @@ public final class TextsTest {
         Check.row("his own", x, 0, 0, 0, 0, 10);
         Check.due("three king's", Check.put(x, "khkk").law(), 3);
         Check.due("the king's", x.parts(), 10);
+    }
+
+    /** : stands behind 9, / ahead of 0: neither is a digit. */
+    private static void noDigits() {
+        for (String no : new String[] {":", "/"}) {
+            HeWillNotPlead x = Check.with("9,9+0", "");
+            Check.due("BEARS " + no, Check.put(x, no + ",5+0").prisoners(), -1);
+            Check.due("BEARS 5" + no, Check.put(x, "5" + no + ",5+0").prisoners(), -2);
+            Check.due("FEAR " + no, Check.put(x, "5," + no + "+0").prisoners(), -3);
+            Check.due("HEIR " + no, Check.put(x, "5,5+" + no).prisoners(), -5);
+            Check.due("GOODS `", Check.put(x, "5,5+0`").prisoners(), -6);
+            Check.due("VALUE " + no, Check.put(x, "1," + no).values(), -3);
+            Check.due("against " + no, Check.put(x, no + ",5,5").witnesses(), -1);
+            Check.due("WORD 5" + no, Check.put(x, "0,5" + no + ",5").witnesses(), -4);
+            Check.due("FADES " + no, Check.put(x, "0,5," + no).witnesses(), -5);
+            Check.due("PRISONER " + no, Check.put(x, "l" + no + "5").assize(), -2);
+            Check.due("NIGHTS " + no, Check.put(x, "n" + no).assize(), -2);
+            Check.due("NUMBER 5" + no + "5", Check.put(x, "b-5:5").rule(), -4);
+        }
     }
 
     private static HeWillNotPlead over() {
