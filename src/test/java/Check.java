@@ -7,15 +7,25 @@ final class Check {
     static final long THROWS = Long.MIN_VALUE;
     private static int wrong = 0;
     private static int asked = 0;
+    private static String heading = "";
 
     private Check() {
+    }
+
+    /** What is said ahead of each answer that is not as due. */
+    static void under(String newHeading) {
+        heading = newHeading.isEmpty() ? "" : newHeading + ": ";
+    }
+
+    static int asked() {
+        return asked;
     }
 
     static void due(String what, long got, long want) {
         asked++;
         if (got != want) {
             wrong++;
-            System.out.println(what + " answered " + told(got) + ", due is " + told(want));
+            System.out.println(heading + what + " answered " + told(got) + ", due is " + told(want));
         }
     }
 
@@ -97,7 +107,7 @@ final class Check {
         asked++;
         if (!got.equals(want)) {
             wrong++;
-            System.out.println(what + ": seen " + got + ", due is " + want);
+            System.out.println(heading + what + ": seen " + got + ", due is " + want);
         }
     }
 
