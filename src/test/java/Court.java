@@ -1,3 +1,4 @@
+import java.util.function.IntFunction;
 import java.util.function.ToLongFunction;
 
 /** One court with a prisoner in each state, and everything that can be seen of it. */
@@ -71,6 +72,27 @@ final class Court {
         Check.same(what + " changes nothing", everythingButRow(x), everythingButRow(make()));
     }
 
+    /** Refused for each who is not SILENT. */
+    static void notSilent(IntFunction<ToLongFunction<HeWillNotPlead>> call, long want) {
+        for (int p : NOT_SILENT) {
+            refuses("of " + p, call.apply(p), want);
+        }
+    }
+
+    /** Refused for each who is not there. */
+    static void noneSuch(IntFunction<ToLongFunction<HeWillNotPlead>> call) {
+        for (int p : NONE_SUCH) {
+            refuses("of " + p, call.apply(p), -1);
+        }
+    }
+
+    /** Refused for the last number below those that are right, the first above, and the very ends. */
+    static void others(IntFunction<ToLongFunction<HeWillNotPlead>> call, int below, int above) {
+        for (int n : new int[] {below, above, Integer.MIN_VALUE, Integer.MAX_VALUE}) {
+            refuses("for " + n, call.apply(n), -1);
+        }
+    }
+
     static String everything(HeWillNotPlead x) {
         return row(x) + everythingButRow(x);
     }
@@ -83,36 +105,40 @@ final class Court {
             all.append(x.hopes(heir)).append(row(x)).append(x.wants(heir)).append(' ');
         }
         all.append("RULE");
-        for (int p = 0; p < x.count(0); p++) {
+        int prisoners = x.count(0);
+        for (int p = 0; p < prisoners; p++) {
             all.append(' ').append(x.left(p, 3)).append(' ').append(x.speaks(p, 33));
         }
         all.append(" UNDONE");
-        for (int k = 0; k < 13; k++) {
-            all.append(' ').append(x.undo()).append(':').append(changing(x));
+        for (int left = x.undo(); left >= 0; left = x.undo()) {
+            all.append(' ').append(left).append(':').append(changing(x));
         }
         for (int i = 0; i < 2; i++) {
             all.append(" KEPT ").append(x.again(i)).append(changing(x));
         }
-        // the first four signs, that is
-        int signs = x.count(13);
-        return all.append(" TEXT ").append(signs).append(' ').append(signs == 4 ? x.law() : 0).toString();
+        // what the signs are, if they could be a law
+        return all.append(" TEXT ").append(x.law()).toString();
     }
 
     private static String row(HeWillNotPlead x) {
         StringBuilder row = new StringBuilder(" [");
-        for (int i = 0; i < x.count(12); i++) {
+        int numbers = x.count(12);
+        for (int i = 0; i < numbers; i++) {
             row.append(x.row(i)).append(' ');
         }
         return row.append("] ").toString();
     }
 
-    /** DAY, what PRISONERS are, LAID and BORNE, WORD of the first WITNESS. */
+    /** DAY, what PRISONERS are, LAID and BORNE, WORD of the first WITNESS; few calls, as an object has 512. */
     private static String changing(HeWillNotPlead x) {
         StringBuilder all = new StringBuilder();
         all.append(x.count(2));
-        for (int p = 0; p < x.count(0); p++) {
-            all.append(',').append(x.prisoner(p, 5)).append('/').append(x.prisoner(p, 6));
-            all.append('/').append(x.prisoner(p, 7));
+        for (int are = 4; are <= 9; are++) {
+            all.append('/').append(x.count(are));
+        }
+        int prisoners = x.count(0);
+        for (int p = 0; p < prisoners; p++) {
+            all.append(',').append(x.prisoner(p, 6)).append('/').append(x.prisoner(p, 7));
         }
         return all.append(',').append(x.count(1) == 0 ? 0 : x.witness(0, 1)).toString();
     }
