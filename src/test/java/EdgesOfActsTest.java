@@ -47,6 +47,7 @@ public final class EdgesOfActsTest {
         edges.edge(17, "(an empty one: nothing)", EdgesOfActsTest::emptyAssize);
         edges.edge(17, "l, a digit (PRISONER), a number (1 or 2 digits): lay(); o, likewise: lay() of so much less",
                 EdgesOfActsTest::digitsOfActs);
+        edges.edge(17, "a and a digit: ask(); j and a digit: judge()", EdgesOfActsTest::oneDigit);
         edges.edge(17, "n and a number (1 or 2 digits): nights()", EdgesOfActsTest::digitsOfNights);
         edges.edge(17, "till one can't be (it answers below 0)", EdgesOfActsTest::tillOneCant);
         edges.edge(17, "the ROW: 1 if one could not be, else 0; DAY", EdgesOfActsTest::rowOfAssize);
@@ -78,6 +79,8 @@ public final class EdgesOfActsTest {
             Court.throwsFor("prisoner(0, " + what + ")", y -> y.prisoner(0, what));
         }
         Court.throwsFor("neither", y -> y.prisoner(6, 11));
+        HeWillNotPlead alone = one();
+        Check.due("the second of one", Check.orThrows(() -> alone.prisoner(1, 0)), Check.THROWS);
     }
 
     private static void noSuchWitness() {
@@ -348,6 +351,19 @@ public final class EdgesOfActsTest {
         wrongAssize("l0-1", 2);
     }
 
+    private static void oneDigit() {
+        HeWillNotPlead x = Check.with("9,9+0", "");
+        Check.due("asked and tried", Check.put(x, "a0;j0").assize(), 2);
+        Check.due("FREED", x.count(7), 1);
+        wrongAssize("a", 1);
+        wrongAssize("j", 1);
+        wrongAssize("a00", 2);
+        wrongAssize("j00", 2);
+        wrongAssize("a;", 1);
+        // a digit of nobody can stand there: the ACT can't be done
+        Check.due("nobody", Check.put(one(), "a9").assize(), 0);
+    }
+
     private static void digitsOfNights() {
         HeWillNotPlead x = one();
         Check.due("one digit", Check.put(x, "n9").assize(), 1);
@@ -433,6 +449,19 @@ public final class EdgesOfActsTest {
             Check.due("no more of " + acts, x.undo(), -1);
             Check.due("those ahead stay", x.prisoner(0, 6), acts - can);
         }
+        // a refused act puts none of them out
+        HeWillNotPlead x = one();
+        for (int k = 0; k < 12; k++) {
+            x.lay(0, 1);
+        }
+        x.lay(0, 51);
+        x.ask(1);
+        Check.put(x, "j0").assize();
+        x.nights(0);
+        for (int k = 11; k >= 0; k--) {
+            Check.due("undo", x.undo(), k);
+        }
+        Check.due("the first of twelve", x.prisoner(0, 6), 0);
     }
 
     private static void refusedAreNotKept() {
@@ -526,6 +555,11 @@ public final class EdgesOfActsTest {
         Check.same("nothing changes", Check.seen(x), before);
         x.lay(0, 2);
         Check.due("then one more", x.undo(), 0);
+        HeWillNotPlead y = withOneAct();
+        Check.put(y, "5,5+0").prisoners();
+        before = Check.seen(y);
+        Check.due("forgotten ones", y.undo(), -1);
+        Check.same("nothing changes", Check.seen(y), before);
     }
 
     private static HeWillNotPlead withOneAct() {

@@ -186,7 +186,7 @@ public final class EdgesOfBearingTest {
         y.sheet(2, 1, 1, 0);
         Check.due("in 60", y.speaks(0, 1), 60);
         Check.row("LEFT then", y, 1);
-        y.sheet(2, 1, 0, 0);
+        Check.put(y, "62-d").rule();
         Check.due("not in 61", y.speaks(0, 1), -2);
     }
 
@@ -200,10 +200,9 @@ public final class EdgesOfBearingTest {
         Check.due("it is THE END", y.speaks(0, 1), -2);
         y.ends(4);
         Check.due("the DAY ahead of THE END", y.speaks(0, 1), 3);
-        y.sheet(2, 1, 0, 0);
         y.ends(99);
-        Check.put(y, "99-d").rule();
-        Check.due("not in 60", y.speaks(0, 1), -2);
+        Check.put(y, "98-d").rule();
+        Check.due("not in 60, though in 61", y.speaks(0, 1), -2);
         Check.due("a dumb one", dumbOne().speaks(0, 99), -2);
         Check.row("these told nothing", y, 37);
     }
@@ -340,6 +339,9 @@ public final class EdgesOfBearingTest {
         HeWillNotPlead x = byRule("20,0-0;20,0+0;95,0+0", "b-w");
         Check.due("one of three", x.stones(400), 1);
         Check.row("one of three", x, 0, 20, 0);
+        HeWillNotPlead y = byRule("20,0+0;50,0+0", "b-w");
+        Check.due("no more for the other", y.stones(69), 1);
+        Check.row("no more for the other", y, 20, 0);
         HeWillNotPlead court = Court.make();
         Check.due("SILENT ones alone", court.stones(400), 1);
         Check.row("SILENT ones alone", court, 0, 10, 0, 0, 0, 0);

@@ -233,6 +233,8 @@ public final class EdgesOfChanceTest {
     private static void asMuchAsTheThreat() {
         // a threat of 0 is held out by 0
         Check.row("0 against 0", rests(0, 1, 1), 0, 0);
+        // and one of 9 by 9
+        Check.row("9 against 0 .. 9", rests(1, 0, 10), 0, 9);
         Check.row("1 for a cost of 2", rests(1, 2, 1), 0, 0);
     }
 

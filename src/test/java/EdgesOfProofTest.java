@@ -75,12 +75,12 @@ public final class EdgesOfProofTest {
     }
 
     private static void proofInNights() {
-        HeWillNotPlead x = Check.with("9,9+0;9,9+0", "0,99,1;1,99,1;1,50,0");
+        HeWillNotPlead x = Check.with("9,9+0;9,9+0", "0,99,1;1,99,2;1,50,0");
         Check.due("0", x.proof(0, 0), 99);
         Check.due("98", x.proof(0, 98), 1);
         Check.due("99", x.proof(0, 99), 0);
         Check.due("99, and what does not fade", x.proof(1, 99), 50);
-        Check.due("behind THE END, too", x.proof(1, 60), 39 + 50);
+        Check.due("behind THE END, too", x.proof(1, 40), 19 + 50);
     }
 
     private static void enoughProof() {
@@ -293,6 +293,9 @@ public final class EdgesOfProofTest {
         Check.put(x, "hshk").law();
         Check.due("LEFT OVER to the king", x.docket(), 3);
         Check.row("LEFT OVER to the king", x);
+        Check.put(x, "hskk").law();
+        Check.due("he has it tried or not", x.docket(), 3);
+        Check.row("he has it tried or not", x);
         Check.put(x, "kshh").law();
         Check.due("DEAD to the king", x.docket(), 0);
         Check.row("DEAD to the king", x);

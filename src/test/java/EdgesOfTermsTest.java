@@ -10,6 +10,7 @@ public final class EdgesOfTermsTest {
     }
 
     private static void people(Edges edges) {
+        edges.term("An object is used for at most 512 calls after it has been made", EdgesOfTermsTest::manyCalls);
         edges.term("PRISONERS 0 .. (at most 6)", EdgesOfTermsTest::sixPrisoners);
         edges.term("BEARS 1 .. 99", EdgesOfTermsTest::bears);
         edges.term("FEAR 0 .. 99", EdgesOfTermsTest::fear);
@@ -20,6 +21,8 @@ public final class EdgesOfTermsTest {
                 EdgesOfTermsTest::nothingLaidAtFirst);
         edges.term("BEARS (1 or 2 digits, not 0)", EdgesOfTermsTest::digitsOfBears);
         edges.term("FEAR (1 or 2 digits)", EdgesOfTermsTest::digitsOfFear);
+        edges.term("LINES with ; between, each one more", EdgesOfTermsTest::linesBetween);
+        edges.term("- (dumb) or + (not), a digit 0 .. 3 (HEIR)", EdgesOfTermsTest::dumbOrNot);
         edges.term("letters of GOODS (rising; none that a PRISONER has already)", EdgesOfTermsTest::lettersRise);
         edges.term("VALUES of GOODS a .. h: 0 .. 99 (at first 10 each)", EdgesOfTermsTest::values);
         edges.term("eight numbers (1 or 2 digits) with commas between", EdgesOfTermsTest::eightNumbers);
@@ -61,6 +64,28 @@ public final class EdgesOfTermsTest {
         edges.term("Refused calls answer NONE, or false, and change nothing but THE TEXT",
                 EdgesOfTermsTest::refusedCalls);
         edges.term("THE TEXT, which a call that reads it empties", EdgesOfTermsTest::readingEmpties);
+    }
+
+    /** What grows by calls alone has room till the last of 512. */
+    private static void manyCalls() {
+        HeWillNotPlead x = Check.with("9,0-0", "0,9,0");
+        Check.put(x, "1").rule();
+        x.lay(0, 1);
+        x.ends(99);
+        int before = 30;
+        // he is LEFT OVER on DAY 99, and bears no more
+        for (int calls = before; calls < 508; calls++) {
+            x.nights(60);
+        }
+        Check.due("DAY", x.count(2), 60 * (508 - before));
+        Check.due("BORNE", x.prisoner(0, 7), 99);
+        Check.due("what can be undone", x.count(11), 12);
+        HeWillNotPlead y = new HeWillNotPlead();
+        for (int calls = 0; calls < 510; calls++) {
+            y.sign(0x6b6b6b6b);
+        }
+        Check.due("signs", y.count(13), 80);
+        Check.due("law", y.law(), -5);
     }
 
     private static void sixPrisoners() {
@@ -134,6 +159,31 @@ public final class EdgesOfTermsTest {
         Check.due("07", Check.with("5,07+0", "").prisoner(0, 1), 7);
         Check.due("no digit", Check.put(new HeWillNotPlead(), "5,+0").prisoners(), -3);
         Check.due("007", Check.put(new HeWillNotPlead(), "5,007+0").prisoners(), -5);
+    }
+
+    private static void linesBetween() {
+        HeWillNotPlead x = new HeWillNotPlead();
+        Check.due("; ahead", Check.put(x, ";5,5+0").prisoners(), -1);
+        Check.due("; behind", Check.put(x, "5,5+0;").prisoners(), -7);
+        Check.due("; twice", Check.put(x, "5,5+0;;5,5+0").prisoners(), -7);
+        Check.due("another sign between", Check.put(x, "5,5+0:5,5+0").prisoners(), -6);
+        Check.due("two", Check.put(x, "5,5+0;6,5+0").prisoners(), 2);
+        Check.due("one more", Check.put(x, "7,5+0").prisoners(), 1);
+        for (int p = 0; p < 3; p++) {
+            Check.due("in their order", x.prisoner(p, 0), 5 + p);
+        }
+    }
+
+    private static void dumbOrNot() {
+        HeWillNotPlead x = Check.with("5,5-0;5,5+0", "");
+        Check.due("-", x.prisoner(0, 2), 1);
+        Check.due("+", x.prisoner(1, 2), 0);
+        // , stands between + and -, * ahead of them, . behind
+        for (String no : new String[] {",", "*", ".", "0"}) {
+            Check.due("5,55" + no, Check.put(x, "5,55" + no + "0").prisoners(), -5);
+        }
+        Check.due("no HEIR", Check.put(x, "5,5-a").prisoners(), -5);
+        Check.due("/ is no HEIR", Check.put(x, "5,5-/").prisoners(), -5);
     }
 
     private static void lettersRise() {
@@ -414,6 +464,7 @@ public final class EdgesOfTermsTest {
         x.undo();
         x.left(Court.SILENT, 3);
         x.mercy(Court.SILENT, 3);
+        x.mercy(Court.SILENT, 60);
         x.till(Court.SILENT);
         x.sure(5, 5, 50);
         x.keep(0);
@@ -504,7 +555,6 @@ public final class EdgesOfTermsTest {
     }
 
     private static void refusedCalls() {
-        Court.refuses("sign", x -> fullText(x).sign(0) == -1 && x.end(4) ? -1 : 0, -1);
         Court.refuses("end", x -> x.end(5) ? 1 : 0, 0);
         Court.refuses("ends", x -> x.ends(2), -1);
         Court.refuses("lay", x -> x.lay(Court.SILENT, 51), -1);
@@ -515,11 +565,10 @@ public final class EdgesOfTermsTest {
         Court.refuses("again", x -> x.again(2) ? 1 : 0, 0);
         Court.refuses("sheet", x -> x.sheet(4, 1, 1, 1), -1);
         Court.refuses("count", x -> x.count(14), -1);
-    }
-
-    /** 77 signs, the first four as they were. */
-    private static HeWillNotPlead fullText(HeWillNotPlead x) {
-        return Check.put(x, "k".repeat(73));
+        HeWillNotPlead x = Check.put(Court.withoutText(), "k".repeat(77));
+        Check.due("sign", x.sign(0), -1);
+        HeWillNotPlead y = Check.put(Court.withoutText(), "k".repeat(77));
+        Check.same("sign changes nothing", Court.everything(x), Court.everything(y));
     }
 
     private static void readingEmpties() {
