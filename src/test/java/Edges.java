@@ -7,11 +7,17 @@ final class Edges {
     private static final int PROMISES = 48;
     private final String[] sections = new String[PROMISES + 1];
     private final int[] tests = new int[PROMISES + 1];
+    private final boolean hasDocument;
 
     /** Section 0 is what stands ahead of the promises: the terms. */
     Edges() throws IOException {
-        String document = Files.readString(Path.of("../shared/DOC.md"));
-        String[] parts = document.split("## (Promise \\d+: .*|Not promised)");
+        Path document = Path.of("../shared/DOC.md");
+        hasDocument = Files.exists(document);
+        if (!hasDocument) {
+            System.out.println("no " + document + ": nobody looks whether it names these cases");
+            return;
+        }
+        String[] parts = Files.readString(document).split("## (Promise \\d+: .*|Not promised)");
         for (int promise = 0; promise <= PROMISES; promise++) {
             sections[promise] = promise < parts.length ? parts[promise] : "";
         }
@@ -23,7 +29,9 @@ final class Edges {
 
     void edge(int promise, String sentence, Runnable test) {
         Check.under((promise == 0 ? "terms" : "promise " + promise) + ", '" + sentence + "'");
-        Check.due("the document says so", sections[promise].contains(sentence), true);
+        if (hasDocument) {
+            Check.due("the document says so", sections[promise].contains(sentence), true);
+        }
         tests[promise]++;
         int before = Check.asked();
         try {
